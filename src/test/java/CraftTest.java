@@ -66,6 +66,9 @@ public final class CraftTest {
         }
         Due.is("craft to the last cell", x.craft(0, 5), 0);
         Due.is("just beyond", x.land(5, 1), STATE);
+        Due.is("beyond, though not by one line", x.land(2, 2), STATE);
+        Due.is("just within", x.land(6, 1), 1);
+        Due.is("just within", x.land(2, 3), 1);
         Due.is("just within", x.land(6, 1), 1);
         Due.is("craft stays", x.craftOf(0), 5);
         Due.is("end", x.end(1, 0, 0, 2, 0), 0);
@@ -216,10 +219,14 @@ public final class CraftTest {
         Due.is("slower than slow", x.fly(3), STATE);
         Due.is("slow goes one cell", x.fly(4), 41 - 3);
         Due.is("cell", x.craftOf(0), 1);
+        x.craft(0, 36);
+        Due.is("left and slower from fast", x.craft(2, 2), 0);
+        Due.is("left and slower", x.fly(0), 38 - 2 - 2 - 1);
+        Due.is("cell", x.craftOf(0), 28);
         x.craft(3, 1);
         Due.is("0 at least", x.fly(4), 0);
         Due.is("down", x.fly(4), STATE);
-        Due.is("tick", x.craftOf(4), 6);
+        Due.is("tick", x.craftOf(4), 7);
         DeadStick y = new DeadStick();
         y.land(2, 1);
         y.craft(2, 2);

@@ -9,6 +9,7 @@ public final class EndsTest {
         promise12Round();
         promise12Hill();
         promise12Down();
+        promise12EachAct();
         promise12Tables();
         promise13Far();
         promise15Best();
@@ -125,6 +126,35 @@ public final class EndsTest {
         x.craft(0, 9);
         Due.is("none", x.bestEnd(), NONE);
         Due.is("none", x.can(), 0);
+    }
+
+    /** A place that one ACT alone leads to best, and SPEEDS that none leads to. */
+    private static void promise12EachAct() {
+        DeadStick x = new DeadStick();
+        x.land(2, 2);
+        x.craft(0, 2);
+        x.end(1, 0, 0, 0, 0);
+        Due.is("left and slower at once", x.spare(0), 60 - 3 - 2 - 1);
+        DeadStick y = new DeadStick();
+        y.land(3, 3);
+        y.craft(0, 3);
+        y.craft(1, 2);
+        y.end(1, 5, 2, 2, 0);
+        Due.is("left and faster at once", y.spare(0), 60 - 4 - 2 - 1);
+        y.craft(1, 0);
+        Due.is("right and faster at once", y.spare(0), 60 - 4 - 2 - 1);
+        DeadStick z = new DeadStick();
+        z.land(4, 1);
+        z.craft(2, 2);
+        z.end(1, 1, 0, 0, 0);
+        z.end(1, 1, 1, 1, 0);
+        z.end(1, 1, 2, 2, 0);
+        z.end(1, 0, 2, 2, 0);
+        z.craft(3, 99);
+        Due.is("not slow at once", z.spare(0), NONE);
+        Due.is("slower to the next one", z.spare(1), 96);
+        Due.is("fast goes by two", z.spare(2), NONE);
+        Due.is("the most HEIGHT there is", z.spare(3), 99);
     }
 
     /** With TURN 9 and the south against it the way by the north is better, though longer. */

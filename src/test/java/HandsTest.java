@@ -79,6 +79,15 @@ public final class HandsTest {
         };
         for (int i = 0; i < bad.length; i++) Due.is(bad[i], Due.read(x, bad[i]), -100 - places[i]);
         Due.is("no hands came", x.many(4), 0);
+        Due.is("a name up to z", Due.read(x, "leftz if 1=1;"), -100);
+        Due.is("59 is the byte ;", Due.read(x, "left if 1=1 0059"), -112);
+        Due.is("40 is the byte (", Due.read(x, "left if 0040 1=1);"), -108);
+        Due.is("240 bytes", Due.read(x, ";".repeat(240)), -100);
+        Due.is("240 letters", Due.read(x, "l".repeat(240)), -100);
+        Due.is("232 digits", Due.read(x, "left if " + "1".repeat(232)), -108);
+        Due.is("the end of 240", Due.read(x, " ".repeat(229) + "left if 1=1"), -340);
+        Due.is("all of 240", Due.read(x, " ".repeat(228) + "left if 1=1;"), 1);
+        Due.is("nothing", x.read(), 0);
         Due.is("brackets one behind the other", Due.read(x, "left if ((((1=1)))) and ((((1=1)))) or (1=1);"), 1);
         Due.is("four and a fifth", Due.read(x, "left if ((((1=1)) and ((1=1 and (1=1)))));"), -100 - 32);
     }
@@ -138,6 +147,9 @@ public final class HandsTest {
         DeadStick x = new DeadStick();
         holds(x, "1=1 or 1=2 and 1=2", 1);
         holds(x, "(1=1 or 1=2) and 1=2", 0);
+        holds(x, "1=1 or 1=2 and 1=1", 1);
+        holds(x, "1=2 or 1=1 and 1=1", 1);
+        holds(x, "1=2 or 1=2 and 1=1", 0);
         holds(x, "1=2 and 1=2 or 1=1", 1);
         holds(x, "1=2 and (1=2 or 1=1)", 0);
         holds(x, "not 1=1 or 1=1", 1);

@@ -230,6 +230,9 @@ public final class HostTest {
         // costs 67 by 1 is 66, and 3 by 3
         asked(x, 3, 3, 67, 31, 13, 20, 11, 30, 10, 12);
         // a - n is -1: the least int by -1 wraps
+        DeadStick z = withEnd(1, 2, 2);
+        // costs (0 + 2) * 5 * 2 - 3 is 17, by 1 is 16, and 3 by 1
+        asked(z, 3, 0, 19, 31, 13, 20, 11, 30, 10, 12);
         DeadStick y = withEnd(4, 2, 3);
         asked(y, 2, Integer.MIN_VALUE, Integer.MIN_VALUE, 12);
     }

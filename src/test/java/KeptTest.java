@@ -3,6 +3,7 @@ public final class KeptTest {
     public static void main(String[] args) {
         allThatIsKept();
         allThatIsNot();
+        theLandsSides();
         theLatestStays();
         shelvesGoByNumber();
         Due.end();
@@ -101,6 +102,21 @@ public final class KeptTest {
         Due.is("shelves", x.taken(1, 12), 2);
         Due.is("the trace", x.many(10), bodies);
         Due.is("the trace", x.trace(0), 20);
+    }
+
+    private static void theLandsSides() {
+        DeadStick x = new DeadStick();
+        x.land(3, 2);
+        x.keep();
+        x.land(5, 7);
+        Due.is("cells", x.many(0), 35);
+        Due.is("again", x.again(), 1);
+        Due.is("cells", x.many(0), 6);
+        x.craft(0, 2);
+        x.craft(1, 2);
+        Due.is("two lines of three: one cell on to the south, and none further", x.fly(4), 58);
+        Due.is("cell", x.craftOf(0), 5);
+        Due.is("to the west alone", x.acts(), 64 + 128 + 256);
     }
 
     private static void theLatestStays() {

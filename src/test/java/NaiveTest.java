@@ -7,7 +7,7 @@ import java.util.List;
  * longest way: all heights one by one, all orders of STEPS, HANDS as trees, ASKS by Java's own classes and exceptions.
  */
 public final class NaiveTest {
-    private static final int RUNS = 300;
+    private static final int RUNS = 400;
     private static final int CALLS = 480;
     private static final String[] NAMES = {
         "land", "lay", "cellOf", "craft", "craftOf", "table", "fly", "acts",
@@ -47,7 +47,7 @@ public final class NaiveTest {
             calls += CALLS;
         }
         for (int i = 0; i < NAMES.length; i++) {
-            if (good[i] < 40) {
+            if (good[i] < 60) {
                 System.out.println(NAMES[i] + " was answered only " + good[i] + " times");
                 System.exit(1);
             }
@@ -61,7 +61,7 @@ public final class NaiveTest {
         StringBuilder log = new StringBuilder();
         int style = below(4);
         int made = 0;
-        if (style > 0) made = prepared(x, y, log);
+        if (style > 0) made = prepared(x, y, style, log);
         while (made < CALLS) {
             int which = picked(style);
             if (NAMES[which].equals("read") && below(3) > 0) {
@@ -102,7 +102,7 @@ public final class NaiveTest {
     }
 
     /** A land with hills and houses, so that not all is flat. */
-    private static int prepared(DeadStick x, Naive y, StringBuilder log) {
+    private static int prepared(DeadStick x, Naive y, int style, StringBuilder log) {
         int w = 1 + below(8);
         int h = 1 + below(8);
         int made = 1;
@@ -127,7 +127,46 @@ public final class NaiveTest {
             y.called(1, new int[] {0, what}, 0);
             made++;
         }
-        return made;
+        if (style != 3) return made;
+        // ENDS all over and little HEIGHT, so that flights come to them
+        for (int i = 0; i < 8; i++) {
+            int[] end = {1 + below(5), below(w * h), below(2), 1 + below(2), below(1000)};
+            called(x, 8, end, 0);
+            y.called(8, end, 0);
+            log.append("end ").append(Arrays.toString(end)).append('\n');
+        }
+        int height = below(30);
+        x.craft(3, height);
+        y.called(3, new int[] {3, height}, 0);
+        log.append("craft 3 ").append(height).append('\n');
+        for (int i = 0; i < 3; i++) {
+            int[] scene = {1 + below(99), below(10), below(9), below(9)};
+            called(x, 16, scene, 0);
+            y.called(16, scene, 0);
+            log.append("scene ").append(Arrays.toString(scene)).append('\n');
+            made += plannedActs(x, y, log) + 1;
+        }
+        x.keep();
+        y.called(46, new int[0], 0);
+        log.append("keep\n");
+        return made + 10;
+    }
+
+    private static int plannedActs(DeadStick x, Naive y, StringBuilder log) {
+        int n = below(21);
+        x.sheet(1, 1, n);
+        y.called(37, new int[] {1, 1, n}, 0);
+        log.append("plan");
+        for (int i = 0; i < n; i++) {
+            int act = below(2) == 0 ? 4 : below(9);
+            x.put(1, i, act);
+            y.called(38, new int[] {1, i, act}, 0);
+            log.append(' ').append(act);
+        }
+        log.append('\n');
+        x.plan(1);
+        y.called(14, new int[] {1}, 0);
+        return n + 2;
     }
 
     /** A sheet of a sort that holds mostly acts. */
@@ -221,7 +260,7 @@ public final class NaiveTest {
             case "cellOf": return new int[] {number(x.many(0)), about(0, 1)};
             case "craft": {
                 int what = about(0, 3);
-                int[] most = {x.many(0) - 1, 3, 2, 99};
+                int[] most = {x.many(0) - 1, 3, 2, below(2) == 0 ? 99 : 20};
                 return new int[] {what, about(0, what >= 0 && what < 4 ? most[what] : 9)};
             }
             case "craftOf": return new int[] {about(0, 6)};

@@ -9,6 +9,7 @@ public final class PlansTest {
         promise19Flown();
         promise19Left();
         promise19TakenAsStraight();
+        promise19EachAct();
         promise19Engine();
         promise19Down();
         promises20To21OddsMean();
@@ -153,6 +154,21 @@ public final class PlansTest {
         flight("faster than fast is straight", x, 3, -1, -9, 2, 1, 999, 0);
     }
 
+    private static void promise19EachAct() {
+        DeadStick x = new DeadStick();
+        x.craft(0, 27);
+        x.craft(3, 20);
+        // 14 at 19 to the north, slow; then 11 at 11, 8 at 3, off
+        Due.is("plan", Due.plan(x, 0), 0);
+        flight("left and slower", x, 0, -1, -9, 3, 3, 999, 0);
+        // 18 at 28, then straight, not left: 16 at 29, 14 at 30, 12 at 31, off
+        Due.is("plan", Due.plan(x, 4), 1);
+        flight("straight behind the plan", x, 1, -1, -9, 31, 4, 999, 0);
+        // 13 at 43 to the south, fast; 9 at 59, off
+        Due.is("plan", Due.plan(x, 8), 2);
+        flight("right and faster", x, 2, -1, -9, 59, 2, 999, 0);
+    }
+
     private static void promise19Engine() {
         DeadStick x = onALine();
         Due.is("plan", Due.plan(x), 0);
@@ -226,6 +242,16 @@ public final class PlansTest {
         Due.is("2 of 6", x.odds(0, 0, 0), 1);
         Due.is("2 of 6", x.odds(0, 0, 1), 3);
         Due.is("left is no end", x.odds(0, 1, 0), 0);
+        DeadStick y = onALine();
+        y.end(1, 5, 1, 1, 30);
+        Due.is("plan", Due.plan(y), 0);
+        y.scene(4, 0, 0, 0);
+        y.scene(6, 9, 0, 20);
+        Due.is("the first scene of two", y.odds(0, 0, 0), 2);
+        Due.is("the first scene of two", y.odds(0, 0, 1), 5);
+        y.scene(10, 9, 9, 20);
+        Due.is("the first and the last", y.odds(0, 0, 0), 7);
+        Due.is("the first and the last", y.odds(0, 0, 1), 10);
         Due.is("4 times 999, twice 30, by 6", x.mean(0, 0), 676);
         Due.is("4 times 999, twice 30, by 6", x.mean(0, 1), 1);
         x.sheet(0, 0, 8);
