@@ -28,7 +28,13 @@ final class Doc {
         parts.put(name, evened(text.substring(from)));
     }
 
+    /** Where a checkout has the project alone there is no document; the tests go on without its words then. */
+    static boolean isThere() {
+        return Files.isReadable(WHERE);
+    }
+
     private static String read() {
+        if (!isThere()) return "";
         try {
             return Files.readString(WHERE);
         } catch (IOException e) {

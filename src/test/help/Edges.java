@@ -24,7 +24,7 @@ final class Edges {
         for (Method m : of(tests)) {
             Edge edge = m.getAnnotation(Edge.class);
             Due.begin(edge.at() + ", \"" + edge.says() + "\" (" + m.getName() + "): ");
-            if (doc.place(edge.at(), edge.says()) < 0) Due.wrong("these words don't stand there, or twice");
+            if (Doc.isThere() && doc.place(edge.at(), edge.says()) < 0) Due.wrong("these words don't stand there, or twice");
             call(m);
         }
         Due.begin("");

@@ -470,6 +470,17 @@ public final class HostEdgesTest {
         }
     }
 
+    @Edge(at = "Promise 41", says = "Item i, taken for a sort (0 to 4;")
+    private static void promise41SortsAre0To4() {
+        DeadStick x = new DeadStick();
+        for (int sort = 0; sort <= 4; sort++) {
+            Due.fill(x, 0, sort, 0, 1, 1);
+            Due.is("the first", x.item(0, sort, 0), 0);
+            Due.is("the last", x.item(0, sort, 2), 1);
+            Due.beyond("sort", v -> x.item(0, v, 2), 0, 4, BAD);
+        }
+    }
+
     @Edge(at = "Promise 41", says = "BAD: no such SHEET, sort; -13; -11; -12.")
     private static void promise41TheFirstNamed() {
         DeadStick x = new DeadStick();
@@ -653,6 +664,18 @@ public final class HostEdgesTest {
         }
     }
 
+    @Edge(at = "Promise 44", says = "taken for a thing of FORM as (0 to 6, or one under it): its number;")
+    private static void promise44TheNumberOfAThingOrOfOneUnderIt() {
+        Due.is("the first END, as an end", end(0, HELPED, 0).taken(0, 0), 0);
+        DeadStick x = end(7, HELPED, 0);
+        for (int as : new int[] {0, 1, 2, 5}) Due.is("the last END as " + as, x.taken(0, as), 7);
+        Due.is("a road isn't helped", end(7, ROAD, 0).taken(0, 5), KIND);
+        Due.is("a field is no road", end(7, FIELD, 0).taken(0, 2), KIND);
+        Due.is("the first SCENE", scene(0, 1).taken(0, 6), 0);
+        Due.is("the last SCENE", scene(4, 99).taken(0, 6), 4);
+        Due.is("a SCENE is no end", scene(4, 99).taken(0, 0), KIND);
+    }
+
     @Edge(at = "Promise 44", says = "BAD: no such SHELF, as; -13; -11.")
     private static void promise44TheFirstNamed() {
         DeadStick x = end(0, FIELD, 0);
@@ -675,6 +698,18 @@ public final class HostEdgesTest {
         int[][] rows = {{0, KIND}, {6, KIND}, {10, 1}, {14, KIND}};
         for (int[] d : rows) Due.is("row as " + d[0], x.taken(2, d[0]), d[1]);
         for (int[] d : rows) Due.is("nothing as " + d[0], x.taken(3, d[0]), NOTHING);
+    }
+
+    @Edge(at = "Promise 45", says = "ASKS (0 to 3) the thing on a SHELF, with x.")
+    private static void promise45FourAsksAndNoMore() {
+        DeadStick x = end(0, FIELD, 2);
+        asked(x, 0, 5, 7, 10);
+        asked(x, 1, 5, 11, 20, 11, 10);
+        asked(x, 2, 5, 2, 12);
+        asked(x, 3, 5, 11, 13, 20, 11, 10);
+        Due.beyond("ask", v -> x.ask(0, v, 5), 0, 3, 0);
+        Due.is("no TRACE", x.many(10), 0);
+        asked(scene(0, 1), 3, 5, -4 - 1, 73, 71, 70, 72);
     }
 
     @Edge(at = "Promise 45", says = "0, and no TRACE then: no such SHELF, ask, nothing, a row of a SHEET.")

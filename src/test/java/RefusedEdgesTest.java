@@ -6,7 +6,6 @@ import java.util.function.ToIntFunction;
 public final class RefusedEdgesTest {
     private static final int BAD = -1, FULL = -2, NONE = -3, STATE = -4, NO_SUCH = -9;
     private static final int NOTHING = -11, OUTSIDE = -12, KIND = -13, SIZE = -14, PARTED = -15;
-    private static final String SAYS = "such a call changes nothing";
 
     private static final List<Integer> FILLED = Filled.seen(Filled.make());
 
@@ -51,7 +50,7 @@ public final class RefusedEdgesTest {
         return x;
     }
 
-    @Edge(at = "Terms", says = SAYS)
+    @Edge(at = "Terms", says = "such a call changes nothing")
     private static void termsRefusedLandAndCraft() {
         refused("land", BAD, x -> x.land(0, 1));
         refused("land", BAD, x -> x.land(8, 9));
@@ -83,7 +82,7 @@ public final class RefusedEdgesTest {
         refused("table", BAD, x -> x.table(9, 1));
     }
 
-    @Edge(at = "Terms", says = SAYS)
+    @Edge(at = "Terms", says = "such a call changes nothing")
     private static void termsRefusedFlight() {
         refused("fly", BAD, x -> x.fly(9));
         refused("fly slower than slow", STATE, x -> x.fly(3));
@@ -106,7 +105,7 @@ public final class RefusedEdgesTest {
         });
     }
 
-    @Edge(at = "Terms", says = SAYS)
+    @Edge(at = "Terms", says = "such a call changes nothing")
     private static void termsRefusedEnds() {
         refused("end", FULL, x -> x.end(1, 0, 0, 2, 0));
         int[][] bad = {{0, 0, 0, 2, 0}, {1, 6, 0, 2, 0}, {1, 0, -1, 2, 0}, {1, 0, 2, 1, 0}, {1, 0, 0, 3, 0}, {1, 0, 0, 2, 1000}};
@@ -122,7 +121,7 @@ public final class RefusedEdgesTest {
         refused("bestEnd without ENDS", NONE, DeadStick::bestEnd, DeadStick::new);
     }
 
-    @Edge(at = "Terms", says = SAYS)
+    @Edge(at = "Terms", says = "such a call changes nothing")
     private static void termsRefusedPlansAndScenes() {
         refused("plan", BAD, x -> x.plan(4));
         refused("plan of bytes", KIND, x -> x.plan(0));
@@ -152,7 +151,7 @@ public final class RefusedEdgesTest {
         refused("bestPlan without SCENES", NONE, DeadStick::bestPlan, RefusedEdgesTest::bare);
     }
 
-    @Edge(at = "Terms", says = SAYS)
+    @Edge(at = "Terms", says = "such a call changes nothing")
     private static void termsRefusedTapeAndHands() {
         refused("feed", BAD, x -> x.feed(0, 0));
         refused("feed", BAD, x -> x.feed(0, 9));
@@ -177,7 +176,7 @@ public final class RefusedEdgesTest {
         Due.is("an empty TEXT then", x.read(), 0);
     }
 
-    @Edge(at = "Terms", says = SAYS)
+    @Edge(at = "Terms", says = "such a call changes nothing")
     private static void termsRefusedRows() {
         refused("prove", BAD, x -> x.prove(4));
         refused("prove", BAD, x -> x.prove(-1));
@@ -189,7 +188,7 @@ public final class RefusedEdgesTest {
         refused("alterRow behind the last", NO_SUCH, x -> x.alterRow(x.many(8), 1, 5));
     }
 
-    @Edge(at = "Terms", says = SAYS)
+    @Edge(at = "Terms", says = "such a call changes nothing")
     private static void termsRefusedWork() {
         refused("step", FULL, x -> x.step(1, 1, 1));
         refused("job", FULL, x -> x.job(1));
@@ -215,7 +214,7 @@ public final class RefusedEdgesTest {
         refused("fair", NONE, x -> x.fair(0, 60, true, 0));
     }
 
-    @Edge(at = "Terms", says = SAYS)
+    @Edge(at = "Terms", says = "such a call changes nothing")
     private static void termsRefusedSheets() {
         for (int sheet = 0; sheet < 4; sheet++) {
             int s = sheet;
@@ -242,7 +241,7 @@ public final class RefusedEdgesTest {
         refused("flies ahead of the first", OUTSIDE, x -> x.flies(2, -1, 3));
     }
 
-    @Edge(at = "Terms", says = SAYS)
+    @Edge(at = "Terms", says = "such a call changes nothing")
     private static void termsRefusedShelvesAndTheRest() {
         for (int shelf = 0; shelf < 4; shelf++) {
             int s = shelf;

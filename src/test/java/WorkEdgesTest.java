@@ -94,6 +94,13 @@ public final class WorkEdgesTest {
         worths("one too late is done all the same, and takes its TICKS", book(late), 9, 18, 1, 0, 2);
     }
 
+    @Edge(at = "Terms 4", says = "In an order of all of them")
+    private static void terms4AnOrderHasAllOfThem() {
+        int[] never = {20, 1, 99};
+        worths("none counts, all are there", book(never, never, never, never, never, never, never), 0, 0, 0, 1, 2, 3, 4, 5, 6);
+        worths("one counts, and is first", book(never, never, new int[] {1, 1, 1}), 0, 1, 2, 0, 1);
+    }
+
     @Edge(at = "Terms 4", says = "AS IT STANDS: the order by numbers.")
     private static void terms4AsItStands() {
         worths("the other way round", book(new int[] {2, 3, 4}, new int[] {1, 1, 5}), 4, 9, 1, 0);
@@ -152,6 +159,18 @@ public final class WorkEdgesTest {
         shared("not even", jobs(4, 4, 5), 8, 3);
     }
 
+    @Edge(at = "Terms 4", says = "SHARED by two: the first one has a set of JOBS, the other the others;")
+    private static void terms4TheFirstOneHasTheLesserSet() {
+        shared("none for either", new DeadStick(), 0, 0);
+        shared("one for the other", jobs(1), 1, 0);
+        // a set and the one of the others take as long: the set without the last JOB is less
+        shared("two", jobs(1, 1), 1, 1);
+        shared("three for three", jobs(1, 1, 1, 1, 1, 1), 3, 7);
+        shared("the longest is the last", jobs(1, 1, 1, 4), 4, 7);
+        shared("the longest is the first", jobs(4, 1, 1, 1), 4, 1);
+        shared("the last two for the other", jobs(10, 8, 9, 9), 18, 3);
+    }
+
     // ---- section 4: trials
 
     @Edge(at = "Terms 4", says = "TRIALS, 20 at most, numbered as they come")
@@ -165,6 +184,18 @@ public final class WorkEdgesTest {
         Due.is("many", x.many(7), 20);
         fair("19 of 20", x, 0, 0, true, 19, 20);
         fair("the last of 20", x, 7, 0, true, 1, 20);
+    }
+
+    @Edge(at = "Terms 4", says = ": TOLD or not")
+    private static void terms4ToldOrNot() {
+        DeadStick x = new DeadStick();
+        Due.is("TOLD", x.trial(true, 0, 1), 0);
+        Due.is("no others", x.fair(1, 0, false, 0), NONE);
+        Due.is("not TOLD", x.trial(false, 0, 2), 1);
+        fair("of TOLD ones", x, 1, 0, true, 1, 1);
+        fair("of TOLD ones", x, 2, 0, true, 0, 1);
+        fair("of others", x, 1, 0, false, 0, 1);
+        fair("of others", x, 2, 0, false, 1, 1);
     }
 
     @Edge(at = "Terms 4", says = "LATE by so many TICKS (0 to 60)")
