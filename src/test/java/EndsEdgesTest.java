@@ -1,3 +1,5 @@
+import java.util.Arrays;
+
 /** Edges of ENDS in sections 1 and 2 and of promises 10 to 15: ends, and which of them can be reached. */
 public final class EndsEdgesTest {
     private static final int BAD = -1, FULL = -2, NONE = -3;
@@ -182,6 +184,58 @@ public final class EndsEdgesTest {
         }
     }
 
+    @Edge(at = "Terms 2", says = "by any row of ACTS (none, too;")
+    private static void terms2SpareByNoActsAtEachPlace() {
+        for (int cell = 0; cell < 64; cell++) {
+            DeadStick x = new DeadStick();
+            for (int speed = 0; speed <= 2; speed++) x.end(1, cell, speed, speed, 0);
+            for (int way = 0; way < 12; way++) {
+                place(x, cell, way / 3, way % 3, 60);
+                Due.is("at cell " + cell + ", HEADING " + way / 3 + ", SPEED " + way % 3, x.spare(way % 3), 60);
+            }
+        }
+    }
+
+    @Edge(at = "Terms 2", says = "by any row of ACTS (none, too;")
+    private static void terms2SpareByEachActAlone() {
+        int[] next = {27 - 8, 27 + 1, 27 + 8};
+        int[] takes = {3 + 2 + 1, 2 + 2, 4 + 2 + 1, 3 + 1, 2, 4 + 1, 3 + 2 + 1, 2 + 2, 4 + 2 + 1};
+        for (int act = 0; act < 9; act++) {
+            int speed = act % 3;
+            int cell = speed == 2 ? 2 * next[act / 3] - 27 : next[act / 3];
+            // hills all around: there is no way but this ACT
+            int[] ground = new int[64];
+            Arrays.fill(ground, 99);
+            ground[27] = 0;
+            ground[cell] = 10;
+            DeadStick x = new DeadStick();
+            Due.lay(x, 0, ground);
+            place(x, 27, EAST, 1, 60);
+            x.end(1, cell, speed, speed, 0);
+            Due.is("by ACT " + act + " alone", x.spare(0), 60 - takes[act] - 10);
+            Due.is("CAN BE by ACT " + act, x.can(), 1);
+            Due.is("best by ACT " + act, x.bestEnd(), 0);
+            Due.is("LATE by ACT " + act, x.late(0), act == 4 ? 1 : 0);
+        }
+    }
+
+    @Edge(at = "Terms 1", says = "SPEED stays 0 to 2")
+    private static void terms1SpeedStays0To2OnTheWayToAnEnd() {
+        // at the next cell by each SPEED and at the one behind it, from each SPEED
+        int[][] next = {{57, 57, NONE}, {56, 58, NONE}, {NONE, 57, NONE}};
+        int[][] second = {{54, 55, NONE}, {54, 56, 55}, {53, 55, 56}};
+        for (int speed = 0; speed <= 2; speed++) {
+            DeadStick x = line(8, 60);
+            x.craft(2, speed);
+            for (int by = 0; by <= 2; by++) {
+                x.end(1, 1, by, by, 0);
+                Due.is("from SPEED " + speed + " at the next by " + by, x.spare(2 * by), next[speed][by]);
+                x.end(1, 2, by, by, 0);
+                Due.is("from SPEED " + speed + " at the second by " + by, x.spare(2 * by + 1), second[speed][by]);
+            }
+        }
+    }
+
     @Edge(at = "Terms 2", says = "without ENGINES)")
     private static void terms2SpareWithoutEngines() {
         DeadStick x = line(4, 5);
@@ -242,6 +296,34 @@ public final class EndsEdgesTest {
         Due.is("two", y.late(0), 2);
     }
 
+    @Edge(at = "Terms 2", says = "LATE: the most TICKS (0 to 30) of straight flight (ACT 4)")
+    private static void terms2LateByEachSpeed() {
+        DeadStick x = line(8, 60);
+        x.end(1, 7, 0, 2, 0);
+        // from cell 0: seven by one cell; fast by two cells to 6, from where 7 can be reached by slower alone
+        int[] dues = {7, 7, 3};
+        for (int speed = 0; speed <= 2; speed++) {
+            x.craft(2, speed);
+            Due.is("by SPEED " + speed, x.late(0), dues[speed]);
+        }
+        x.craft(0, 1);
+        Due.is("fast from 1 to 7", x.late(0), 3);
+        x.craft(0, 6);
+        Due.is("fast at 6", x.late(0), 0);
+        x.craft(2, 0);
+        Due.is("slow at 6", x.late(0), 1);
+        // three slow TICKS take 9: DOWN at cell 3
+        x.craft(0, 0);
+        x.craft(3, 9);
+        x.end(1, 3, 0, 0, 0);
+        Due.is("slow and low", x.late(1), 3);
+        // faster, straight, slower come there with 3, 1, 0, but not behind a TICK
+        x.craft(3, 6);
+        Due.is("none but at once", x.late(1), 0);
+        x.craft(3, 5);
+        Due.is("DOWN at cell 2", x.late(1), NONE);
+    }
+
     @Edge(at = "Terms 2", says = "(they all MAY BE)")
     private static void terms2LateTheyAllMayBe() {
         DeadStick x = line(4, 60);
@@ -253,6 +335,22 @@ public final class EndsEdgesTest {
         Due.is("DOWN behind the first: over it at once only, fast", x.late(0), 0);
         x.craft(2, 2);
         Due.is("fast to cell 2, then not fast", x.late(0), 1);
+    }
+
+    @Edge(at = "Terms 2", says = "(they all MAY BE)")
+    private static void terms2LateNotBeyondWhereItIsDown() {
+        DeadStick x = new DeadStick();
+        int[] ground = new int[64];
+        ground[25] = 58;
+        Due.lay(x, 0, ground);
+        place(x, 24, EAST, 1, 60);
+        x.end(1, 25, 0, 2, 0);
+        // beyond the hill there would be a way round and back to it
+        Due.is("DOWN there behind one TICK", x.late(0), 1);
+        place(x, 25, EAST, 1, 58);
+        Due.is("DOWN there now", x.late(0), 0);
+        x.craft(3, 59);
+        Due.is("one above it: six to the border, and back from there", x.late(0), 6);
     }
 
     @Edge(at = "Terms 2", says = "none, if it CAN'T BE now.")

@@ -25,6 +25,10 @@ public final class HandsEdgesTest {
         Due.is(cond, x.line(0, 1), due);
     }
 
+    private static void joined(DeadStick x, String cond, boolean due) {
+        holds(x, cond, due ? 1 : 0);
+    }
+
     private static void place(DeadStick x, int cell, int heading, int speed, int height) {
         int[] v = {cell, heading, speed, height};
         for (int what = 0; what < 4; what++) x.craft(what, v[what]);
@@ -55,6 +59,19 @@ public final class HandsEdgesTest {
         Due.is("233 still", x.many(9), 233);
         Due.is("240", x.feed(0x3B3B3B3B3B3B3BL, 7), 240);
         Due.is("the first of the last seven", x.read(), -100 - 233);
+    }
+
+    @Edge(at = "Terms 3", says = "THE TAPE takes bytes, 240 at most")
+    private static void terms3TapeOf240Parts() {
+        faults("=".repeat(240), 0);
+        faults("1=".repeat(120), 0);
+        faults("left if " + "(".repeat(232), 12);
+        faults("left if 1=1" + ")".repeat(229), 11);
+        faults("left if " + "1=".repeat(116), 11);
+        faults("left if 1=1" + ";".repeat(229), 12);
+        DeadStick x = new DeadStick();
+        Due.is("parts that are no TEXT", Due.read(x, ";".repeat(240)), -100);
+        Due.is("the next TEXT", Due.read(x, LINE.repeat(9)), 9);
     }
 
     @Edge(at = "Terms 3", says = "read() uses it up.")
@@ -140,6 +157,34 @@ public final class HandsEdgesTest {
         holds(x, "1=2 and 1=1 or 1=1", 1);
     }
 
+    @Edge(at = "Terms 3", says = "COND: ALL { or ALL }")
+    private static void terms3OrJoinsWhatAndHasJoined() {
+        DeadStick x = new DeadStick();
+        for (int bits = 0; bits < 16; bits++) {
+            boolean[] b = {(bits & 1) > 0, (bits & 2) > 0, (bits & 4) > 0, (bits & 8) > 0};
+            String[] s = new String[4];
+            for (int i = 0; i < 4; i++) s[i] = b[i] ? "1=1" : "1=2";
+            joined(x, s[0] + " or " + s[1] + " and " + s[2], b[0] || b[1] && b[2]);
+            joined(x, s[0] + " and " + s[1] + " or " + s[2], b[0] && b[1] || b[2]);
+            joined(x, s[0] + " and " + s[1] + " or " + s[2] + " and " + s[3], b[0] && b[1] || b[2] && b[3]);
+            joined(x, s[0] + " or " + s[1] + " and " + s[2] + " or " + s[3], b[0] || b[1] && b[2] || b[3]);
+        }
+    }
+
+    @Edge(at = "Terms 3", says = "ALL: ONE { and ONE }")
+    private static void terms3AndJoinsWhatStandsInBrackets() {
+        DeadStick x = new DeadStick();
+        for (int bits = 0; bits < 16; bits++) {
+            boolean[] b = {(bits & 1) > 0, (bits & 2) > 0, (bits & 4) > 0, (bits & 8) > 0};
+            String[] s = new String[4];
+            for (int i = 0; i < 4; i++) s[i] = b[i] ? "1=1" : "1=2";
+            joined(x, "(" + s[0] + " or " + s[1] + ") and " + s[2], (b[0] || b[1]) && b[2]);
+            joined(x, s[0] + " and (" + s[1] + " or " + s[2] + " and " + s[3] + ")", b[0] && (b[1] || b[2] && b[3]));
+            joined(x, s[0] + " or (" + s[1] + " or " + s[2] + ") and " + s[3], b[0] || (b[1] || b[2]) && b[3]);
+            joined(x, "not " + s[0] + " and " + s[1] + " or not(" + s[2] + " and not " + s[3] + ")", !b[0] && b[1] || !(b[2] && !b[3]));
+        }
+    }
+
     @Edge(at = "Terms 3", says = "ONE: { not } (")
     private static void terms3NoneOrMoreNots() {
         DeadStick x = new DeadStick();
@@ -163,12 +208,47 @@ public final class HandsEdgesTest {
             faults("left if " + name.substring(1) + "=1;", 8);
             faults("left if 1=" + name.substring(0, name.length() - 1) + ";", 10);
         }
-        for (String other : new String[] {"left", "faster", "if", "or", "and", "x"}) {
+        for (String other : new String[] {"left", "right", "slower", "faster", "if", "or", "and", "x"}) {
             faults("left if " + other + "=1;", 8);
             faults("left if 1=" + other + ";", 10);
         }
+        // not can stand ahead of a VALUE, but is none
+        faults("left if not=1;", 11);
+        faults("left if 1=not;", 10);
+        faults("left if 1=not 1;", 10);
         faults("left if -1=1;", 8);
         faults("left if 1=-1;", 10);
+    }
+
+    @Edge(at = "Terms 3", says = "VALUE: N | height | speed | heading | tick | ground | houses | clear")
+    private static void terms3ValueOfEachByte() {
+        for (int sign = 0; sign < 256; sign++) {
+            boolean isDigit = sign >= '0' && sign <= '9';
+            // behind a blank or a "(" the = can't stand there
+            read("left if " + (char) sign + "=1;", isDigit ? 1 : sign == ' ' || sign == '(' ? -109 : -108);
+            read("left if 1=" + (char) sign + ";", isDigit ? 1 : sign == ' ' ? -111 : -110);
+            read("left if 1=1" + (char) sign + "=1;", isDigit ? -112 : sign == ';' || sign == ' ' ? -112 : -111);
+        }
+    }
+
+    @Edge(at = "Terms 3", says = "FAULT: the place (from 0) of the first byte of the first NAME, NUMBER or other byte that can't stand there")
+    private static void terms3NumbersAreNoOtherBytes() {
+        // NUMBERS that are told as the bytes ( ) ; < = > are
+        faults("left if 1=1 59", 12);
+        faults("left if 40 1=1 41;", 11);
+        faults("left if (1=1 41;", 13);
+        for (int number = 0; number < 256; number++) {
+            faults("left if 1 " + number + " 1;", 10);
+            faults(LINE + number, 12);
+            faults("left if 1=1 " + number + ";", 12);
+        }
+        for (int number = 0; number < 20; number++) {
+            faults(number + " if 1=1;", 0);
+            faults("left " + number + " 1=1;", 5);
+            faults("left if 1=1 " + number + " 1=1;", 12);
+        }
+        // a NUMBER of four digits is none, though it were told as a byte or a NAME is
+        for (int number = 0; number < 100; number++) faults("left if 1=" + String.format("%04d", number) + ";", 10);
     }
 
     @Edge(at = "Terms 3", says = "SIGN: < | = | >")
@@ -440,6 +520,27 @@ public final class HandsEdgesTest {
         Due.is("DOWN: none", x.hand(), NONE);
     }
 
+    @Edge(at = "Terms 3", says = "left or right by the first LINE of these two that holds, slower or faster likewise")
+    private static void terms3HandsDoEachAct() {
+        String[] turns = {"left if tick=0;", "", "right if tick=0;"};
+        String[] paces = {"slower if tick=0;", "", "faster if tick=0;"};
+        int[] steps = {-8, 1, 8};
+        int[] takes = {3 + 2 + 1, 2 + 2, 4 + 2 + 1, 3 + 1, 2, 4 + 1, 3 + 2 + 1, 2 + 2, 4 + 2 + 1};
+        for (int act = 0; act < 9; act++) {
+            // where there is room for four cells ahead, two TICKS by fast
+            int from = act < 3 ? 35 : 27;
+            int cell = from + steps[act / 3] * (act % 3 == 2 ? 2 : 1);
+            DeadStick x = new DeadStick();
+            place(x, from, EAST, 1, takes[act]);
+            Due.read(x, turns[act / 3] + paces[act % 3]);
+            Due.is("ACT " + act, x.hand(), act);
+            int[] dues = {-9, cell, 1, 999, 1};
+            for (int what = 0; what < 5; what++) Due.is("ruled " + what + " by ACT " + act, x.ruled(what), dues[what]);
+            x.craft(3, takes[act] + 1);
+            Due.is("one more TICK behind ACT " + act, x.ruled(2), 2);
+        }
+    }
+
     @Edge(at = "Terms 3", says = "RULED FLIGHT: so on from now (60 TICKS at most")
     private static void terms3Ruled60TicksAtMost() {
         int[][] heights = {{59, 59, 1}, {60, 60, 1}, {61, 60, 0}, {99, 60, 0}};
@@ -590,6 +691,28 @@ public final class HandsEdgesTest {
         y.craft(0, 7);
         Due.is("no ROWS, at the border", y.judge(), 0);
         Due.is("a turn MAY BE all the same", y.acts() > 0 ? 1 : 0, 1);
+    }
+
+    @Edge(at = "Terms 3", says = "behind all, if there are fewer than 30, straight flight MAY not BE any more.")
+    private static void terms3BehindAllByEachSpeed() {
+        DeadStick x = new DeadStick();
+        x.land(4, 1);
+        Due.plan(x);
+        x.craft(2, 0);
+        Due.is("no ROWS, slow", x.judge(), 99);
+        Due.is("slow", x.prove(0), 3);
+        Due.is("slow at the border", x.judge(), 0);
+        x.land(5, 1);
+        Due.is("slow, one cell more: slower MAY not BE, but straight MAY", x.judge(), 99);
+        x.craft(2, 2);
+        Due.is("fast", x.prove(0), 2);
+        Due.is("fast at the border", x.judge(), 0);
+        x.land(6, 1);
+        Due.is("fast, one cell more: slower MAY BE, but straight MAY not", x.judge(), 0);
+        x.land(7, 1);
+        Due.is("fast, two cells more", x.judge(), 99);
+        x.craft(0, 6);
+        Due.is("the first MAY not BE", x.judge(), 1);
     }
 
     // ---- promises 23 to 27

@@ -611,6 +611,21 @@ public final class HostEdgesTest {
         Due.is("none of no items", x.flies(0, 0, 0), 0);
     }
 
+    @Edge(at = "Promise 42", says = "-12: what stood ahead was done.")
+    private static void promise42NothingIsDoneOutside() {
+        // in the middle all ACTS MAY BE, so what is done outside would be seen
+        DeadStick x = new DeadStick();
+        x.craft(0, 27);
+        Due.is("all ACTS", x.acts(), 511);
+        Due.fill(x, 0, 2, 4, 4);
+        for (int i : new int[] {2, 3, -1, -2, 63, 64, MOST, LEAST}) Due.is("from " + i, x.flies(0, i, 1), OUTSIDE);
+        int[] now = {27, 1, 1, 60, 0};
+        for (int what = 0; what < 5; what++) Due.is("craft " + what, x.craftOf(what), now[what]);
+        Due.is("one within, one outside", x.flies(0, 1, 2), OUTSIDE);
+        int[] then = {28, 1, 1, 58, 1};
+        for (int what = 0; what < 5; what++) Due.is("craft " + what, x.craftOf(what), then[what]);
+    }
+
     // ---- promises 43 to 47
 
     @Edge(at = "Promise 43", says = "the row of SHEET n (2; nothing, if missing), nothing (3): 1.")

@@ -100,6 +100,32 @@ public final class KeptEdgesTest {
         isOneOfEach(x);
     }
 
+    @Edge(at = "Promise 48", says = "All but")
+    private static void promise48AllCellsAndTablesAreKept() {
+        DeadStick x = new DeadStick();
+        int[] cells = new int[64];
+        for (int i = 0; i < 64; i++) cells[i] = 1 + i;
+        Due.lay(x, 0, cells);
+        for (int i = 0; i < 64; i++) cells[i] = 99 - i;
+        Due.lay(x, 1, cells);
+        int[] tables = {9, 8, 7, 6, 5, 1, 2, 3, 5};
+        for (int what = 0; what < 9; what++) x.table(what, tables[what]);
+        int[] craft = {63, 3, 2, 99};
+        for (int what = 0; what < 4; what++) x.craft(what, craft[what]);
+        x.keep();
+        Due.lay(x, 0, new int[64]);
+        Due.lay(x, 1, new int[64]);
+        for (int what = 0; what < 9; what++) x.table(what, 1);
+        for (int what = 0; what < 4; what++) x.craft(what, 1);
+        Due.is("again", x.again(), 1);
+        for (int i = 0; i < 64; i++) {
+            Due.is("GROUND of " + i, x.cellOf(i, 0), 1 + i);
+            Due.is("HOUSES of " + i, x.cellOf(i, 1), 99 - i);
+        }
+        for (int what = 0; what < 4; what++) Due.is("craft " + what, x.craft(what, 1), craft[what]);
+        for (int what = 0; what < 9; what++) Due.is("table " + what, x.table(what, 1), tables[what]);
+    }
+
     @Edge(at = "Promise 48", says = "All but THE TAPE, ROWS, SHEETS, SHELVES, THE TRACE is kept")
     private static void promise48FiveThingsAreNotKept() {
         DeadStick x = oneOfEach();

@@ -167,6 +167,40 @@ public final class PlansEdgesTest {
         flight("each ACT in its TICK", x, 2, -1, -9, 5, 4, 999, 1);
     }
 
+    @Edge(at = "Terms 2", says = "its ACTS one behind the other, then straight ones")
+    private static void terms2FlownStraightBehindNoneToFourActs() {
+        // right n times from cell 27, then straight to the border, where each other ACT MAY BE on the way, too
+        int[][] dues = {{31, 4}, {59, 4}, {32, 4}, {2, 6}, {31, 8}};
+        DeadStick x = new DeadStick();
+        x.craft(0, 27);
+        for (int n = 0; n <= 4; n++) {
+            int[] acts = new int[n];
+            Arrays.fill(acts, 7);
+            DeadStick y = n < 4 ? x : new DeadStick();
+            y.craft(0, 27);
+            Due.is("plan", Due.plan(y, acts), n % 4);
+            flight(n + " ACTS", y, n % 4, -1, -9, dues[n][0], dues[n][1], 999, 0);
+        }
+    }
+
+    @Edge(at = "Terms 2", says = "its ACTS one behind the other, then straight ones")
+    private static void terms2FlownByEachAct() {
+        int[] steps = {-8, 1, 8};
+        int[] takes = {3 + 2 + 1, 2 + 2, 4 + 2 + 1, 3 + 1, 2, 4 + 1, 3 + 2 + 1, 2 + 2, 4 + 2 + 1};
+        for (int act = 0; act < 9; act++) {
+            // where there is room for four cells ahead, two TICKS by fast
+            int from = act < 3 ? 35 : 27;
+            int cell = from + steps[act / 3] * (act % 3 == 2 ? 2 : 1);
+            DeadStick x = new DeadStick();
+            x.craft(0, from);
+            x.craft(3, takes[act]);
+            Due.is("plan", Due.plan(x, act), 0);
+            flight("DOWN behind ACT " + act, x, 0, -1, -9, cell, 1, 999, 1);
+            x.craft(3, takes[act] + 1);
+            Due.is("one more HEIGHT: one more TICK behind ACT " + act, x.flown(0, -1, 2), 2);
+        }
+    }
+
     @Edge(at = "Terms 2", says = "one that MAY not BE is taken as straight")
     private static void terms2FlownStraightForOneThatMayNotBe() {
         DeadStick x = line(8);
