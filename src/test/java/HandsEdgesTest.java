@@ -89,6 +89,20 @@ public final class HandsEdgesTest {
         Due.is("room again", Due.feed(x, " ".repeat(240)), 240);
     }
 
+    @Edge(at = "Terms 3", says = "read() uses it up.")
+    private static void terms3NothingIsLeftOfWhatWasRead() {
+        DeadStick x = new DeadStick();
+        Due.is("good", Due.read(x, "left if 123=123 and height=60;"), 1);
+        // each is the beginning of what was read
+        for (String part : new String[] {"lef", "left i", "left if", "left if 12", "left if 123=12", "left if 123=123 an", "left if 123=123 and heigh"}) {
+            int last = part.lastIndexOf(' ') + 1;
+            boolean isWhole = part.endsWith("if") || part.endsWith("12");
+            Due.is(part, Due.read(x, part), -100 - (isWhole ? part.length() : last));
+        }
+        Due.is("a NUMBER at the end", Due.read(x, "left if 12=1 or 12=12"), -100 - 21);
+        Due.is("stays", x.line(0, 1), 1);
+    }
+
     @Edge(at = "Terms 3", says = "TEXT: { LINE ; }")
     private static void terms3TextOfNoLines() {
         DeadStick x = new DeadStick();
@@ -235,8 +249,12 @@ public final class HandsEdgesTest {
     private static void terms3NumbersAreNoOtherBytes() {
         // NUMBERS that are told as the bytes ( ) ; < = > are
         faults("left if 1=1 59", 12);
+        faults("left if 1=1 0059", 12);
         faults("left if 40 1=1 41;", 11);
+        faults("left if 0040 1=1 41;", 8);
         faults("left if (1=1 41;", 13);
+        faults("left if (1=1 0041;", 13);
+        faults("left if 1 0061 1;", 10);
         for (int number = 0; number < 256; number++) {
             faults("left if 1 " + number + " 1;", 10);
             faults(LINE + number, 12);
@@ -589,6 +607,23 @@ public final class HandsEdgesTest {
         for (int what = 0; what < 5; what++) Due.is("LEFT at once", x.ruled(what), left[what]);
     }
 
+    @Edge(at = "Terms 3", says = "no ENGINE) till THE CRAFT is DOWN, or has LEFT.")
+    private static void terms3RuledHasNotLeftWhereATurnIsDone() {
+        DeadStick x = new DeadStick();
+        place(x, 7, EAST, 1, 60);
+        Due.read(x, "right if 1=1;");
+        // at cell 7 straight flight MAY not BE, right MAY; 4 a TICK, from 7 by 15, 14, 6 to 7 again
+        int[] round = {-9, 6, 15, 999, 1};
+        for (int what = 0; what < 5; what++) Due.is("round and round: " + what, x.ruled(what), round[what]);
+        Due.read(x, "right if tick=4;");
+        int[] left = {-9, 7, 0, 999, 0};
+        for (int what = 0; what < 5; what++) Due.is("no turn: " + what, x.ruled(what), left[what]);
+        x.craft(0, 3);
+        // four TICKS to cell 7, right to 15, then straight to 63
+        int[] turned = {-9, 63, 11, 999, 0};
+        for (int what = 0; what < 5; what++) Due.is("a turn in time: " + what, x.ruled(what), turned[what]);
+    }
+
     // ---- section 3: rows and their reader
 
     @Edge(at = "Terms 3", says = "ROWS are what was proved of a PLAN flown without ENGINE: (ACT, HEIGHT behind it) for each TICK till it ended, 30 at most.")
@@ -813,6 +848,19 @@ public final class HandsEdgesTest {
         Due.is("nine", Due.read(x, LINE.repeat(9)), 9);
         Due.is("the ninth", x.line(8, 1), 1);
         Due.beyond("line of nine", i -> x.line(i, 0), 0, 8, -9);
+    }
+
+    @Edge(at = "Promise 25", says = "-9: there is none such, another what.")
+    private static void promise25NoneSuchOfThoseReadAhead() {
+        DeadStick x = new DeadStick();
+        Due.is("nine", Due.read(x, LINE.repeat(9)), 9);
+        for (int lines = 8; lines >= 0; lines--) {
+            Due.is("fewer", Due.read(x, LINE.repeat(lines)), lines);
+            for (int i = lines; i < 10; i++) {
+                Due.is("line " + i + " of " + lines, x.line(i, 0), -9);
+                Due.is("line " + i + " of " + lines, x.line(i, 1), -9);
+            }
+        }
     }
 
     @Edge(at = "Promise 26", says = "The ACT by HANDS now. NONE.")

@@ -1,9 +1,11 @@
+import java.util.Arrays;
+
 /** Edges of section 5 and of promises 39 to 47: sheets, shelves, asks, the trace, how many. */
 public final class HostEdgesTest {
     private static final int BAD = -1, NONE = -3, STATE = -4;
     private static final int NOTHING = -11, OUTSIDE = -12, KIND = -13, SIZE = -14, PARTED = -15;
     private static final int LEAST = Integer.MIN_VALUE, MOST = Integer.MAX_VALUE;
-    private static final int FIELD = 1, ROAD = 2, WATER = 3, HILL = 4, HELPED = 5;
+    private static final int FIELD = 1, ROAD = 2, WATER = 3, HILL = 4, HELPED = 5, SCENE = 6;
     private static final int REACHES = 0, COSTS = 1, BEARS = 2, TELLS = 3;
 
     public static void main(String[] args) {
@@ -63,6 +65,25 @@ public final class HostEdgesTest {
         asked(scene(4, 99), REACHES, 5, 94, 70);
         asked(scene(4, 99), COSTS, 5, 98, 71, 70);
         asked(scene(0, 99), COSTS, 5, 94, 71, 70);
+    }
+
+    @Edge(at = "Terms 5", says = "FORMS: 0 end, 1 field (under end), 2 road (under field), 3 water (under end), 4 hill (under end), 5 helped (under road), 6 scene (under none of these).")
+    private static void terms5EachFormByEachAsk() {
+        // FORM, ASK, answer, bodies; the number is 3, COST or WEIGHT 10, x 20
+        int[][] all = {
+            {FIELD, REACHES, 30, 10}, {FIELD, COSTS, 57, 20, 11, 10}, {FIELD, BEARS, 2, 12}, {FIELD, TELLS, 58, 13, 20, 11, 10},
+            {ROAD, REACHES, 150, 30, 10}, {ROAD, COSTS, 297, 20, 11, 30, 10}, {ROAD, BEARS, 2, 12},
+            {ROAD, TELLS, 298, 31, 13, 20, 11, 30, 10, 12},
+            {WATER, REACHES, 30, 10}, {WATER, COSTS, -60, 40, 11, 10}, {WATER, BEARS, 2, 12}, {WATER, TELLS, -57, 13, 40, 11, 10},
+            {HILL, REACHES, 30, 10}, {HILL, COSTS, 60, 11, 10}, {HILL, BEARS, 3, 50, 12}, {HILL, TELLS, 63, 13, 11, 10},
+            {HELPED, REACHES, 156, 60, 30, 10}, {HELPED, COSTS, 374, 61, 20, 11, 60, 30, 10, 30, 10}, {HELPED, BEARS, 2, 12},
+            {HELPED, TELLS, 373, 31, 13, 61, 20, 11, 60, 30, 10, 30, 10, 12},
+            {SCENE, REACHES, -10, 70}, {SCENE, COSTS, -7, 71, 70}, {SCENE, BEARS, 0, 72}, {SCENE, TELLS, -7, 73, 71, 70, 72},
+        };
+        for (int[] a : all) {
+            DeadStick x = a[0] == SCENE ? scene(3, 10) : end(3, a[0], 10);
+            asked(x, a[1], 20, a[2], Arrays.copyOfRange(a, 3, a.length));
+        }
     }
 
     @Edge(at = "Terms 5", says = "end: 10 reaches: x + a.")
@@ -525,7 +546,7 @@ public final class HostEdgesTest {
         x.table(3, 0);
         x.craft(0, 27);
         int[] turns = new int[64];
-        java.util.Arrays.fill(turns, 7);
+        Arrays.fill(turns, 7);
         Due.fill(x, 0, 2, turns);
         Due.beyond("flies", n -> x.flies(0, 0, n), 0, 30, BAD);
         Due.is("none was done", x.craftOf(4), 0);
@@ -568,6 +589,18 @@ public final class HostEdgesTest {
         Due.is("TICK", y.craftOf(4), 200);
         Due.is("none at 200", y.flies(0, 0, 4), 0);
         Due.is("TICK", y.craftOf(4), 200);
+    }
+
+    @Edge(at = "Promise 42", says = "(such as aren't, or MAY not BE, are left out): how many were done.")
+    private static void promise42NoActsWhereAllMayBe() {
+        DeadStick x = new DeadStick();
+        x.craft(0, 27);
+        Due.is("all ACTS", x.acts(), 511);
+        int[] others = {-1, -2, -3, -9, 9, 10, 11, 12, 13, 18, 256, 260, 65540, LEAST, LEAST + 4, MOST};
+        Due.fill(x, 0, 2, others);
+        Due.is("none is done", x.flies(0, 0, others.length), 0);
+        int[] now = {27, 1, 1, 60, 0};
+        for (int what = 0; what < 5; what++) Due.is("craft " + what, x.craftOf(what), now[what]);
     }
 
     @Edge(at = "Promise 42", says = "BAD: no such SHEET, n; -13; -11;")

@@ -2,7 +2,7 @@ import java.util.List;
 
 /** Edges of promises 48 and 49: what is kept and what isn't, nothing kept, the latest kept, which stays. */
 public final class KeptEdgesTest {
-    private static final int FULL = -2, NONE = -3, STATE = -4, NOTHING = -11;
+    private static final int BAD = -1, FULL = -2, NONE = -3, STATE = -4, NOTHING = -11;
 
     public static void main(String[] args) {
         Edges.run(KeptEdgesTest.class);
@@ -259,6 +259,24 @@ public final class KeptEdgesTest {
         y.again();
         Due.is("none", y.many(6), 0);
         Due.is("the first one has none", y.shared(0), 0);
+    }
+
+    @Edge(at = "Promise 49", says = "It becomes what was kept latest")
+    private static void promise49FewerStepsThanAhead() {
+        DeadStick x = new DeadStick();
+        for (int steps = 0; steps < 7; steps++) {
+            // of those that are kept one alone can count, the last one is worth most; of the others all count
+            int greatest = steps == 0 ? 0 : 19 + steps;
+            x.keep();
+            for (int i = steps; i < 7; i++) x.step(1, 99, 99);
+            Due.is("seven", x.worth(1), greatest + 99 * (7 - steps));
+            Due.is("again", x.again(), 1);
+            Due.is("as many", x.many(5), steps);
+            Due.is("the greatest of " + steps, x.worth(1), greatest);
+            for (int i = 0; i < steps; i++) Due.is("order " + i + " of " + steps, x.order(i), i == 0 ? steps - 1 : i - 1);
+            Due.is("there are not so many", x.order(steps), BAD);
+            Due.is("step", x.step(10, 10, 20 + steps), steps);
+        }
     }
 
     @Edge(at = "Promise 49", says = "(which stays)")

@@ -50,6 +50,28 @@ public final class LandEdgesTest {
         Due.is("cells stay", x.many(0), 64);
     }
 
+    @Edge(at = "Terms 1", says = "has 1 to 8 by 1 to 8 cells")
+    private static void terms1FlightOverLandsOfEachSize() {
+        for (int w = 1; w <= 8; w++) {
+            for (int h = 1; h <= 8; h++) {
+                DeadStick x = new DeadStick();
+                x.land(w, h);
+                // to the south along the first column, and to the north along the last one
+                crossed(x, 0, SOUTH, h - 1, w * h - w);
+                crossed(x, w * h - 1, NORTH, h - 1, w - 1);
+                crossed(x, 0, EAST, w - 1, w - 1);
+                crossed(x, w * h - 1, WEST, w - 1, w * h - w);
+            }
+        }
+    }
+
+    private static void crossed(DeadStick x, int from, int heading, int ticks, int to) {
+        place(x, from, heading, 1, 60);
+        for (int i = 1; i <= ticks; i++) Due.is("TICK " + i + " from " + from + " by " + heading, x.fly(4), 60 - 2 * i);
+        Due.is("the border from " + from + " by " + heading, x.craftOf(0), to);
+        Due.is("no more from " + from + " by " + heading, x.fly(4), STATE);
+    }
+
     @Edge(at = "Terms 1", says = "(8 by 8 at first)")
     private static void terms1LandIs8By8AtFirst() {
         DeadStick x = new DeadStick();
