@@ -560,9 +560,9 @@ public final class DeadStick {
         int count = 0;
 
         Rows(int most, int wide) {
-            this.most = most;
-            this.wide = wide;
-            numbers = new int[most * wide];
+            this.most = Math.max(0, most);
+            this.wide = Math.max(0, wide);
+            numbers = new int[this.most * this.wide];
         }
 
         boolean has(int i) {
@@ -878,7 +878,7 @@ public final class DeadStick {
             Arrays.fill(first, NO_PLACE);
             offer(from.cell, from.heading, from.speed, from.height);
             for (int height = MOST_HEIGHT; height >= 0; height--) {
-                for (int i = 0; i < PLACES && first[height] != NO_PLACE; i++) {
+                for (int i = 0; i < PLACES && isPlace(first[height]); i++) {
                     int place = first[height];
                     unchain(place, height);
                     int cell = place / AT_A_CELL;
@@ -905,7 +905,7 @@ public final class DeadStick {
 
         private void offer(int cell, int heading, int speed, int height) {
             int place = placeOf(cell, heading, speed);
-            if (place < 0 || place >= PLACES || height < 0 || height > MOST_HEIGHT) return;
+            if (!isPlace(place) || !isHeight(height)) return;
             if (best[place] >= height) return;
             if (best[place] >= 0) unchain(place, best[place]);
             best[place] = height;
@@ -916,20 +916,30 @@ public final class DeadStick {
             return cell * AT_A_CELL + heading * SPEEDS + speed;
         }
 
+        private static boolean isPlace(int place) {
+            return place >= 0 && place < PLACES;
+        }
+
+        private static boolean isHeight(int height) {
+            return height >= 0 && height <= MOST_HEIGHT;
+        }
+
         private void chain(int place, int height) {
+            if (!isPlace(place) || !isHeight(height)) return;
             int behind = first[height];
             previous[place] = NO_PLACE;
             next[place] = behind;
-            if (behind != NO_PLACE) previous[behind] = place;
+            if (isPlace(behind)) previous[behind] = place;
             first[height] = place;
         }
 
         private void unchain(int place, int height) {
+            if (!isPlace(place) || !isHeight(height)) return;
             int ahead = previous[place];
             int behind = next[place];
-            if (ahead != NO_PLACE) next[ahead] = behind;
+            if (isPlace(ahead)) next[ahead] = behind;
             else first[height] = behind;
-            if (behind != NO_PLACE) previous[behind] = ahead;
+            if (isPlace(behind)) previous[behind] = ahead;
         }
 
         /** Behind a search: the greatest HEIGHT at an END's cell with a good SPEED, below 0 if it CAN'T BE. */
@@ -939,7 +949,7 @@ public final class DeadStick {
             for (int heading = 0; heading < HEADINGS; heading++) {
                 for (int speed = 0; speed < SPEEDS; speed++) {
                     int place = placeOf(cell, heading, speed);
-                    if (place < 0 || place >= PLACES || !world.isGood(end, cell, speed)) continue;
+                    if (!isPlace(place) || !world.isGood(end, cell, speed)) continue;
                     greatest = Math.max(greatest, best[place]);
                 }
             }
@@ -978,6 +988,7 @@ public final class DeadStick {
         }
 
         void add(int what) {
+            if (count < 0 || count > MOST_LINES) return;
             int end = firsts[count];
             if (end < 0 || end >= LONGEST_TAPE) return;
             code[end] = what;
@@ -989,8 +1000,10 @@ public final class DeadStick {
         }
 
         boolean holds(int i, Land land, Craft craft) {
+            if (!has(i)) return false;
             int stack = 0;
-            for (int k = firsts[i]; k < firsts[i + 1] && k < LONGEST_TAPE; k++) {
+            int end = Math.min(firsts[i + 1], LONGEST_TAPE);
+            for (int k = Math.max(firsts[i], 0); k < end; k++) {
                 int what = code[k];
                 int top = stack & 1;
                 switch (what) {
@@ -1061,13 +1074,14 @@ public final class DeadStick {
         private final int[] kinds = new int[LONGEST_TAPE + 1];
         private final int[] whats = new int[LONGEST_TAPE + 1];
         private int parts = 0;
-        /** The part in view. */
+        /** The part in view, and where on THE TAPE it begins. */
         private int view = 0;
+        private int begins = 0;
         private int kind = STOP;
         private int what = 0;
 
         boolean isAdded(long eight, int n) {
-            if (n < 0 || length + n > LONGEST_TAPE) return false;
+            if (n < 0 || n > LONGEST_TAPE - length) return false;
             for (int i = 0; i < n; i++) tape[length + i] = (byte) (eight >>> 8 * i);
             length += n;
             return true;
@@ -1080,7 +1094,7 @@ public final class DeadStick {
             look(0);
             boolean good = true;
             for (int i = 0; i < MOST_LINES && good && kind != STOP; i++) good = isLine();
-            return good && kind == STOP ? -1 : places[view];
+            return good && kind == STOP ? -1 : begins;
         }
 
         private void split() {
@@ -1126,7 +1140,7 @@ public final class DeadStick {
 
         private int digits(int from, int end) {
             int number = 0;
-            for (int i = from; i < end; i++) number = number * 10 + at(i) - '0';
+            for (int i = Math.max(from, 0); i < end && i < length; i++) number = number * 10 + at(i) - '0';
             return number;
         }
 
@@ -1154,6 +1168,7 @@ public final class DeadStick {
         private void look(int part) {
             if (part < 0 || part >= parts) return;
             view = part;
+            begins = places[part];
             kind = kinds[part];
             what = whats[part];
         }
@@ -1287,6 +1302,7 @@ public final class DeadStick {
         }
 
         private int firstBest(Rows steps, int ahead) {
+            if (ahead < 0 || ahead >= best.length) return BAD;
             int from = steps.sumOfSet(ahead, TAKES);
             for (int i = 0; i < steps.count && i < MOST_STEPS; i++) {
                 if ((ahead >> i & 1) == 1) continue;
@@ -1337,7 +1353,7 @@ public final class DeadStick {
         }
 
         boolean isAllWithin(int least, int most) {
-            for (int i = 0; i < count; i++) {
+            for (int i = 0; i < count && i < LONGEST_SHEET; i++) {
                 if (!isWithin(number(i), least, most)) return false;
             }
             return true;
